@@ -1189,13 +1189,18 @@ public final class TurnHouse {
                 tokens.advance();
                 readObject(line, kind);
             }
-            program.at[Program.KIND][line] = kind;
+            int[][] at = program.at;
+            at[Program.KIND][line] = kind;
+            at[Program.FROM][line] = nodes.size;
             if (hasExp(kind)) {
-                readExp(line, Program.FROM);
+                readLevel(0, 1);
             }
+            at[Program.TO][line] = nodes.size;
             if (kind == CAS) {
                 need(',');
-                readExp(line, Program.FROM2);
+                at[Program.FROM2][line] = nodes.size;
+                readLevel(0, 1);
+                at[Program.TO2][line] = nodes.size;
             }
             if (kind == CAS || kind == ADD) {
                 readInto(line);
@@ -1314,13 +1319,6 @@ public final class TurnHouse {
 
         // ---- expressions
 
-        /** An expression of a line; the field behind from is where it ends. */
-        private void readExp(int line, int from) {
-            program.at[from][line] = nodes.size;
-            readLevel(0, 1);
-            program.at[from + 1][line] = nodes.size;
-        }
-
         private static int levelOf(int sign) {
             switch (sign) {
                 case '|':
@@ -1414,8 +1412,10 @@ public final class TurnHouse {
                 tokens.advance();
                 readOne(depth + 1);
                 nodes.put(kind == '-' ? Nodes.MINUS : '!', 0);
+            } else if (ofLaw && kind == Tokens.WORD) {
+                readCellOrLocal();
             } else if (ofLaw) {
-                readFactWord(kind);
+                readAsked(kind);
             } else {
                 int i = localHere();
                 if (i >= 0) {
@@ -1454,11 +1454,8 @@ public final class TurnHouse {
             cuts[2 * which + 1] = nodes.size;
         }
 
-        private void readFactWord(int kind) {
-            if (kind == Tokens.WORD) {
-                readCellOrLocal();
-                return;
-            }
+        /** What laws ask of threads and locks by words of their own. */
+        private void readAsked(int kind) {
             tokens.advance();
             if (kind == Tokens.STUCK) {
                 nodes.put(Nodes.SLOT, Machine.STUCK);
@@ -1507,7 +1504,7 @@ public final class TurnHouse {
         static final int ALWAYS_ZERO = 234, SIZE = 235;
         static final int WIDTH = 110, OUTCOME_WIDTH = 17;
 
-        final int[] now = new int[SIZE];
+        final int[] now = new int[SIZE], kept = new int[SIZE];
         /** The steps that can be taken, each a thread times 10 and its choice. */
         final int[] ready = new int[MOST_THREADS * 10];
         int readyCount;
@@ -1526,7 +1523,7 @@ public final class TurnHouse {
 
         // ---- the first state
 
-        void begin(Program of, int byWay) {
+        void enterFirst(Program of, int byWay) {
             program = of;
             way = byWay;
             Arrays.fill(now, 0);
@@ -1628,6 +1625,14 @@ public final class TurnHouse {
                 now[slots[i]] = (int) (two >> 32);
                 now[slots[i + 1]] = (int) two;
             }
+        }
+
+        void keep() {
+            System.arraycopy(now, 0, kept, 0, SIZE);
+        }
+
+        void comeBack() {
+            System.arraycopy(kept, 0, now, 0, SIZE);
         }
 
         // ---- which steps are ready
@@ -1775,7 +1780,14 @@ public final class TurnHouse {
                 return;
             }
             act = program.at[Program.KIND][line];
-            int why = act <= ADD ? touch(t, object, choice) : act <= WAKEALL ? useLock(t, object, choice) : goOn(t, object);
+            int why;
+            if (act <= ADD) {
+                why = touch(t, object, choice);
+            } else if (act <= WAKEALL) {
+                why = useLock(t, object, choice);
+            } else {
+                why = act <= HALT ? meet(t, object) : tell();
+            }
             if (why != 0) {
                 now[STATUS + t] = WRONG;
                 now[NEXT + t] = -1;
@@ -1902,24 +1914,20 @@ public final class TurnHouse {
             go(t, target);
         }
 
-        /** All the other lines: 0, or why it went wrong. */
-        private int goOn(int t, int object) {
-            switch (act) {
-                case START:
-                    return begins(t, object);
-                case JOIN:
-                    learn(t, now[THREAD_VIEWS + object]);
-                    return 0;
-                case FENCE:
-                    learn(t, now[FENCE_VIEW]);
-                    now[FENCE_VIEW] = now[THREAD_VIEWS + t];
-                    return 0;
-                case HALT:
-                    target = -1;
-                    return 0;
-                default:
-                    return tell();
+        /** What goes by other threads, and the end of the own one: 0, or why it went wrong. */
+        private int meet(int t, int other) {
+            if (act == START) {
+                return begins(t, other);
             }
+            if (act == JOIN) {
+                learn(t, now[THREAD_VIEWS + other]);
+            } else if (act == FENCE) {
+                learn(t, now[FENCE_VIEW]);
+                now[FENCE_VIEW] = now[THREAD_VIEWS + t];
+            } else {
+                target = -1;
+            }
+            return 0;
         }
 
         private int begins(int t, int other) {
@@ -1931,6 +1939,7 @@ public final class TurnHouse {
             return 0;
         }
 
+        /** All that goes by an expression alone: 0, or why it went wrong. */
         private int tell() {
             int value = workOut(Program.FROM);
             if (program.nodes.beyond) {
@@ -2114,8 +2123,8 @@ public final class TurnHouse {
 
     /** All states of a program, and the steps between them. */
     private static final class Turns {
-        /** Marks of states: threads that have a ready step, how it was found, its sort if it is an end. */
-        static final int READY_THREADS = 15, BY_WHILE = 16, STUCK_END = 32;
+        /** Marks of states: threads that have a ready step, how it was found, its sort and outcome if it is an end. */
+        static final int READY_THREADS = 15, BY_WHILE = 16, STUCK_END = 32, OUTCOME_SHIFT = 8;
         static final int TABLE = 1 << 16;
 
         final Machine machine = new Machine();
@@ -2126,12 +2135,12 @@ public final class TurnHouse {
         final int[] edges = new int[MOST_TRIED], found = new int[MOST_STATES];
         final int[] edgeStart = new int[MOST_STATES + 1];
         final int[] mark = new int[MOST_STATES];
-        final int[] outcomeOf = new int[MOST_STATES], outcomeState = new int[MOST_STATES];
+        final int[] outcomeState = new int[MOST_STATES];
         final long[] row = new long[Machine.WIDTH];
-        final int[] here = new int[Machine.SIZE], priority = new int[MOST_THREADS];
+        final int[] priority = new int[MOST_THREADS];
         final int[] switches = new int[MOST_STATES * MOST_THREADS];
         final int[] layer = new int[MOST_STATES * MOST_THREADS], nextLayer = new int[MOST_STATES * MOST_THREADS];
-        int edgeCount, endCount, only, layerSize, nextSize;
+        int edgeCount, endCount, layerSize, nextSize;
         boolean done, fewer, switchesCounted;
 
         int tryAll(Program program, int way, boolean byFewer) {
@@ -2140,7 +2149,7 @@ public final class TurnHouse {
             switchesCounted = false;
             edgeCount = 0;
             endCount = 0;
-            machine.begin(program, way);
+            machine.enterFirst(program, way);
             machine.pickSlots();
             findings.clear(program);
             states.clear(machine.slotCount / 2, way == VIEWS ? MOST_VIEW_STATES : MOST_STATES);
@@ -2151,11 +2160,11 @@ public final class TurnHouse {
             found[0] = -1;
             boolean fits = true;
             for (int s = 0; s < states.size && fits; s++) {
-                lookAround(s);
+                int only = lookAround(s);
                 int many = machine.readyCount;
                 for (int i = 0; i < many && fits; i++) {
                     int step = machine.ready[i];
-                    fits = only >= 0 && step != only * 10 || tryStep(s, step);
+                    fits = only >= 0 && step != only || tryStep(s, step);
                 }
             }
             edgeStart[states.size] = edgeCount;
@@ -2163,30 +2172,29 @@ public final class TurnHouse {
             return fits ? states.size : FULL;
         }
 
-        /** The machine comes to a state; what is told of it, and which steps are to be tried from it, is noted. */
-        private void lookAround(int s) {
+        /** Comes to a state and notes what is told of it: the only step to be tried there, less than 0 for all. */
+        private int lookAround(int s) {
             machine.unpack(states.data, s * states.width);
-            System.arraycopy(machine.now, 0, here, 0, Machine.SIZE);
+            machine.keep();
             int many = machine.listReady();
             for (int i = 0; i < many; i++) {
                 mark[s] |= 1 << machine.ready[i] / 10;
             }
             edgeStart[s] = edgeCount;
-            outcomeOf[s] = -1;
-            only = fewer && (mark[s] & BY_WHILE) == 0 ? quietThread() : -1;
             findings.see(machine, s);
             if (many == 0) {
                 noteEnd(s);
             }
+            return fewer && (mark[s] & BY_WHILE) == 0 ? quietStep() : -1;
         }
 
-        /** The least thread whose next line no other thread can see; less than 0 if there is none. */
-        private int quietThread() {
+        /** The step of the least thread whose next line no other thread can see; less than 0 if there is none. */
+        private int quietStep() {
             for (int t = 0; t < machine.program.threadCount; t++) {
                 if (machine.now[Machine.STATUS + t] == RUNS) {
                     int kind = machine.program.at[Program.KIND][machine.now[Machine.NEXT + t]];
                     if (kind == SETTING || kind >= HALT && kind <= IF) {
-                        return t;
+                        return t * 10;
                     }
                 }
             }
@@ -2196,7 +2204,7 @@ public final class TurnHouse {
         /** Whether there was room for what comes of a step from a state. */
         private boolean tryStep(int s, int step) {
             int t = step / 10, choice = step % 10;
-            System.arraycopy(here, 0, machine.now, 0, Machine.SIZE);
+            machine.comeBack();
             if (choice != FLUSH) {
                 findings.noteTaking(machine, t);
             }
@@ -2230,7 +2238,7 @@ public final class TurnHouse {
             }
             int known = outcomes.size;
             int i = outcomes.put(row, 0);
-            outcomeOf[s] = i;
+            mark[s] |= i + 1 << OUTCOME_SHIFT;
             if (i == known) {
                 outcomeState[i] = s;
             }
@@ -2298,7 +2306,7 @@ public final class TurnHouse {
             }
             int fewest = MOST_TRIED;
             for (int s = outcomeState[i]; s < states.size; s++) {
-                for (int t = 0; t < MOST_THREADS && outcomeOf[s] == i; t++) {
+                for (int t = 0; t < MOST_THREADS && mark[s] >> OUTCOME_SHIFT == i + 1; t++) {
                     fewest = Math.min(fewest, switches[s * MOST_THREADS + t]);
                 }
             }
@@ -2371,7 +2379,7 @@ public final class TurnHouse {
 
         private int drawnOutcome(int code, int one, int other) {
             arrange(code);
-            machine.begin(machine.program, TURNS);
+            machine.enterFirst(machine.program, TURNS);
             for (int taken = 0; taken <= MOST_STEPS; taken++) {
                 int rank = firstReady();
                 if (rank < 0) {
@@ -2738,7 +2746,7 @@ public final class TurnHouse {
         boolean live;
 
         void start(Program program, int way) {
-            machine.begin(program, way);
+            machine.enterFirst(program, way);
             length = 0;
             live = true;
         }
