@@ -18,7 +18,7 @@ public final class CasesTest {
                 CALLS.put(method.getName(), method);
             }
         }
-        String[] files = {"anyPrograms.txt", "likelyPrograms.txt"};
+        String[] files = {"anyPrograms.txt", "likelyPrograms.txt", "numbersOfStates.txt"};
         for (String file : files) {
             runFile(file, Files.readAllLines(Path.of("src/test/cases", file), StandardCharsets.ISO_8859_1));
         }

@@ -200,6 +200,12 @@ public final class ExploreTest {
         House thrice = House.of("cell x; thread A { add x, 1 into p; add x, 1 into p; add x, 1 into p; }"
             + " thread B { add x, 1 into q; add x, 1 into q; }");
         thrice.x.explore(0, false);
+        House back = House.of("cell x; cell y; thread A { x = 1; x = 2; } thread B { p = x; p = x; y = p; }");
+        back.x.explore(0, false);
+        for (int i = 0; i < back.x.explored(3); i++) {
+            int p = back.x.outcomeLocal(i, 1, 0);
+            House.due("switches with p = " + p, back.x.outcome(i, 2), p == 1 ? 1 : 0);
+        }
         int[] due = new int[5];
         for (int i = 0; i < thrice.x.explored(3); i++) {
             int p = thrice.x.outcomeLocal(i, 0, 0);

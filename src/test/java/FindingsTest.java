@@ -66,6 +66,11 @@ public final class FindingsTest {
         race("x = 1", "fence", 0);
         // it counts that the line is next, also if it goes wrong then
         race("x = 999 + 1", "r = x", 1);
+        // one that is seen in several states is one race
+        House again = House.of("cell x; thread A { x = 1; } thread B { x = 2; } thread C { fence; }");
+        again.x.explore(0, false);
+        House.due("races", again.x.race(-1, 0), 1);
+        House.due("state", again.x.race(0, 2), 0);
         House locked = House.of("cell x; lock l; thread A { lock l; x = 1; unlock l; } thread B { lock l; x = 2; unlock l; r = x; }");
         locked.x.explore(0, false);
         House.due("races", locked.x.race(-1, 0), 1);
@@ -192,9 +197,14 @@ public final class FindingsTest {
         three.x.explore(0, false);
         House.due("crossed", three.x.ring(5), 1);
         House.due("order(0, 2)", three.x.order(0, 2), 0);
-        House line = House.of("lock k; lock l; lock m; thread A { lock k; lock l; lock m; }");
+        House line = House.of("lock k; lock l; lock m; thread A { lock m; lock l; }");
+        line.x.explore(0, false);
+        House.due("order(2, 1)", line.x.order(2, 1), 1);
+        // nothing is left of what was found before
+        line.read("lock k; lock l; lock m; thread A { lock k; lock l; lock m; }");
         line.x.explore(0, false);
         House.due("crossed", line.x.ring(5), 0);
         House.due("order(0, 2)", line.x.order(0, 2), 1);
+        House.due("order(2, 1)", line.x.order(2, 1), 0);
     }
 }

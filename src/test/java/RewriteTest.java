@@ -8,6 +8,7 @@ public final class RewriteTest {
         blocks();
         soundness();
         byWay();
+        sameCells();
         whatIsExplored();
         forgotten();
         full();
@@ -95,6 +96,19 @@ public final class RewriteTest {
         all.thread(0, 4, House.NONE, 0);
         rewrite(all, 1, 1, 1);
         lines(all);
+        House two = House.of("thread A { p = 1; q = 2; }");
+        rewrite(two, 1, 1, 1);
+        lines(two, 0);
+        two.x.drop();
+        rewrite(two, 0, 0, 1);
+        rewrite(two, 1, 1, 1);
+        lines(two, 0);
+        House inner = House.of("thread A { if 1 { p = 1; } q = 2; }");
+        rewrite(inner, 1, 1, 1);
+        lines(inner, 0, 2);
+        House outer = House.of("thread A { if 0 { p = 1; } else { q = 2; } }");
+        rewrite(outer, 1, 2, 1);
+        lines(outer, 0);
         House loop = House.of("cell x; thread A { p = x; while p { p = 0; } if p { } else { q = 1; } }");
         rewrite(loop, 1, 2, 1);
         rewrite(loop, 1, 4, 1);
@@ -190,6 +204,30 @@ public final class RewriteTest {
         House.due("r", house.x.outcomeLocal(house.x.gained(), 0, 0), 0);
         House.due("s", house.x.outcomeLocal(house.x.gained(), 1, 0), 0);
         House.due("sound(2)", house.x.sound(2), 0);
+    }
+
+    /** A rewritten program has what the program has: volatile cells, first values, threads that start later. */
+    private static void sameCells() {
+        House house = House.of("cell x = 4; cell v volatile = 5; cell y; thread A { v = 1; x = 1; r = y; } thread B later { y = 1; s = x; }"
+            + " thread C { t = v; u = x; }");
+        rewrite(house, 1, 2, 1);
+        for (int way = 0; way < 3; way++) {
+            House.due("sound(" + way + ")", house.x.sound(way), 1);
+            boolean olderLater = false;
+            for (int i = 0; i < house.x.explored(3); i++) {
+                House.due("y", house.x.outcomeCell(i, 2), 0);
+                boolean first = house.x.outcomeLocal(i, 2, 0) == 5;
+                House.due("t", first || house.x.outcomeLocal(i, 2, 0) == 1 ? 1 : 0, 1);
+                olderLater = olderLater || !first && house.x.outcomeLocal(i, 2, 1) == 4;
+            }
+            House.due("x is 4 when v is 1", olderLater ? 1 : 0, 1);
+        }
+        House order = House.of("cell x; cell v volatile; thread A { x = 1; v = 1; r = 1; } thread B { s = v; t = x; }");
+        rewrite(order, 1, 2, 1);
+        order.x.sound(2);
+        order.law("always !(ended B & B.s == 1 & B.t == 0)", 1, House.NONE);
+        order.x.sound(1);
+        order.law("always !(ended B & B.s == 1 & B.t == 0)", 1, House.NONE);
     }
 
     private static void whatIsExplored() {

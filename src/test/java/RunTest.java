@@ -11,12 +11,15 @@ public final class RunTest {
         blocks();
         buffers();
         bufferedJoin();
+        buffersOfOthers();
         views();
+        viewsOfSwapsAndSums();
         viewsOfLocksAndThreads();
         viewsOfFences();
         nineWrites();
         runGoesOn();
         before();
+        beforeInLongRuns();
         runRaces();
         House.finish();
     }
@@ -47,6 +50,7 @@ public final class RunTest {
             House.due("local(1, 0)", x.local(1, 0), House.NO_VALUE);
             House.due("local(4, 0)", x.local(4, 0), House.NO_VALUE);
             House.due("local(-1, 0)", x.local(-1, 0), House.NO_VALUE);
+            House.due("local(3, 0)", x.local(3, 0), House.NO_VALUE);
             House.due("seen(0, 0)", x.seen(0, 0), 7);
             House.due("seen(0, 1)", x.seen(0, 1), House.NO_VALUE);
             House.due("seen(0, -1)", x.seen(0, -1), House.NO_VALUE);
@@ -121,6 +125,8 @@ public final class RunTest {
         value("p == 5 & q != 5", 1);
         value("p == q", 0);
         value("p != 5", 0);
+        value("p != 4", 1);
+        value("(p == 5) + (p < 6) + (p > 4) + (p & q) + (p | q) + !0", 6);
         value("p <= 5", 1);
         value("p <= 4", 0);
         value("p >= 5", 1);
@@ -174,6 +180,15 @@ public final class RunTest {
         wrong("start C; start C;", 2, 3);
         wrong("assert 0;", 1, 4);
         wrong("assert 1; assert 1 - 1;", 2, 4);
+        House ends = House.of("cell x = - 998; thread A { add x, - 1; add x, 999; add x, 999; add x, 1; }");
+        for (int way = 0; way < 3; way++) {
+            ends.begin(way, 0);
+            House.due("the least value", ends.x.cell(0), -999);
+            ends.turns(0, 0);
+            House.due("the greatest value", ends.x.cell(0), 999);
+            ends.turns(0);
+            ends.thread(0, 5, House.NONE, 1);
+        }
         House house = House.of("cell x = 5; thread A { cas x, 5, 6 into p; cas x, 5, 7 into q; add x, 3 into r; }");
         for (int way = 0; way < 3; way++) {
             house.begin(way, 0, 0, 0);
@@ -185,7 +200,7 @@ public final class RunTest {
     }
 
     private static void manyTimesLocked() {
-        House house = House.of("lock k; lock l; thread A { lock l; lock l; unlock l; unlock l; while 1 { lock k; } }"
+        House house = House.of("lock k; lock l; lock m; thread A { lock l; lock l; unlock l; unlock l; while 1 { lock m; } }"
             + " thread B { lock l; }");
         for (int way = 0; way < 3; way++) {
             house.begin(way, 0);
@@ -193,7 +208,7 @@ public final class RunTest {
             House.due("how often", house.x.held(1, 1), 1);
             House.due("held(1, 2)", house.x.held(1, 2), House.BAD);
             House.due("held(1, -1)", house.x.held(1, -1), House.BAD);
-            House.due("held(2, 0)", house.x.held(2, 0), House.BAD);
+            House.due("held(3, 0)", house.x.held(3, 0), House.BAD);
             House.due("held(-1, 0)", house.x.held(-1, 0), House.BAD);
             house.readySteps(0);
             house.turns(0);
@@ -208,11 +223,11 @@ public final class RunTest {
             for (int i = 0; i < 9; i++) {
                 house.turns(0, 0);
             }
-            House.due("how often", house.x.held(0, 1), 9);
+            House.due("how often", house.x.held(2, 1), 9);
             house.turns(0, 0);
             house.thread(0, 5, House.NONE, 5);
-            House.due("how often", house.x.held(0, 1), 9);
-            House.due("who", house.x.held(0, 0), 0);
+            House.due("how often", house.x.held(2, 1), 9);
+            House.due("who", house.x.held(2, 0), 0);
         }
     }
 
@@ -251,6 +266,15 @@ public final class RunTest {
         all.thread(0, 3, 1, 0);
         all.thread(1, 3, 3, 0);
         all.readySteps();
+        House twice = House.of("lock l; lock m; thread A { lock m; wake m; unlock m; } thread B { lock m; lock m; lock m; wait m; wait m; }");
+        twice.begin(0, 10, 10, 10, 10, 0, 0, 0, 10);
+        House.due("who", twice.x.held(1, 0), 1);
+        House.due("how often", twice.x.held(1, 1), 3);
+        House.due("the other lock", twice.x.held(0, 0), House.NONE);
+        twice.turns(10);
+        House.due("who", twice.x.held(1, 0), House.NONE);
+        House.due("how often", twice.x.held(1, 1), 0);
+        twice.thread(1, 2, 7, 0);
         House alone = House.of("lock l; thread A { wake l; } thread B { lock l; wait l; }");
         alone.begin(0, 10, 10);
         alone.readySteps(0);
@@ -375,6 +399,29 @@ public final class RunTest {
         plain.readySteps(9);
     }
 
+    /** The buffers of threads that are not the first go as the first one's. */
+    private static void buffersOfOthers() {
+        House house = House.of("cell w; cell x; thread A { r = x; } thread B { w = 1; x = 2; x = 3; r = x; w = 4; } thread C { x = 5; r = w; }");
+        house.begin(1, 20, 10, 10, 10);
+        house.readySteps(0, 10, 19, 20, 29);
+        House.due("buffer", house.x.thread(1, 3), 3);
+        House.due("buffer", house.x.thread(2, 3), 1);
+        House.due("seen", house.x.seen(1, 0), 3);
+        House.due("seen", house.x.seen(0, 0), 0);
+        house.turns(10);
+        // there is no room for a fourth write
+        house.readySteps(0, 19, 20, 29);
+        house.turns(19, 19);
+        House.due("w", house.x.cell(0), 1);
+        House.due("x", house.x.cell(1), 2);
+        house.turns(29);
+        House.due("x", house.x.cell(1), 5);
+        house.turns(10, 19, 19);
+        House.due("w", house.x.cell(0), 4);
+        House.due("x", house.x.cell(1), 3);
+        house.readySteps(0, 20);
+    }
+
     private static void bufferedJoin() {
         House house = House.of("cell x; thread A { x = 1; } thread B { join A; }");
         house.begin(1, 0);
@@ -433,6 +480,40 @@ public final class RunTest {
         own.begin(2, 0);
         own.readySteps(0);
         House.due("seen", own.x.seen(0, 0), 1);
+    }
+
+    private static void viewsOfSwapsAndSums() {
+        // a cas that does not write sees the last write all the same
+        House fails = House.of("cell w; cell x; thread A { x = 1; x = 2; } thread B { cas x, 5, 6; r = x; r = w; }");
+        fails.begin(2, 0, 0, 10);
+        fails.readySteps(10);
+        House.due("seen", fails.x.seen(1, 0), 2);
+        // one that writes tells what its thread had seen
+        House tells = House.of("cell x; cell y; thread A { x = 1; cas y, 0, 1; } thread B { add y, 1 into s; r = x; }");
+        tells.begin(2, 0, 0, 10);
+        tells.readySteps(10);
+        House.due("s", tells.x.local(1, 0), 1);
+        House adds = House.of("cell x; cell y; thread A { x = 1; add y, 1; } thread B { add y, 1; r = x; }");
+        adds.begin(2, 0, 0, 10);
+        adds.readySteps(10);
+        // the views of the second cell and of the others stay apart
+        House cells = House.of("cell w; cell x; cell y; thread A { x = 1; x = 2; x = 3; y = 1; w = 1; }"
+            + " thread B { r = x; r = x; r = y; r = w; r = x; }");
+        cells.begin(2, 0, 0, 0, 0, 0, 11, 11);
+        House.due("r", cells.x.local(1, 0), 2);
+        cells.readySteps(10, 11);
+        cells.turns(11);
+        cells.readySteps(10, 11);
+        cells.turns(11);
+        cells.readySteps(10, 11);
+        House.due("seen", cells.x.seen(1, 0), 2);
+        House.due("seen", cells.x.seen(1, 1), 3);
+        // a thread's view goes on from where its own writes are
+        House own = House.of("cell x; cell y; thread A { y = 1; x = 1; r = x; r = y; } thread B { x = 2; y = 2; }");
+        own.begin(2, 0, 10, 10, 0, 0);
+        own.readySteps(0, 1);
+        House.due("seen", own.x.seen(0, 0), 1);
+        House.due("seen", own.x.seen(0, 1), 2);
     }
 
     private static void viewsOfLocksAndThreads() {
@@ -506,6 +587,40 @@ public final class RunTest {
         House.due("x", house.x.cell(0), 1);
         House.due("turn", house.x.turn(0, 0), 0);
         House.due("x", house.x.cell(0), 2);
+    }
+
+    /** Runs of more steps than a number has bits. */
+    private static void beforeInLongRuns() {
+        House house = House.of("cell x; thread A { while 1 { } } thread B { while 1 { } } thread C { fence; x = 1; } thread D { fence; r = x; }");
+        TurnHouse x = house.x;
+        x.begin(0);
+        for (int i = 0; i < 90; i++) {
+            house.turns(0, 10);
+        }
+        // 180 and 181 are C's, 182 and 183 are D's
+        house.turns(20, 20, 30, 30);
+        due(x, 0, 2, 1);
+        due(x, 0, 178, 1);
+        due(x, 1, 178, 0);
+        due(x, 1, 179, 1);
+        due(x, 64, 178, 1);
+        due(x, 65, 178, 0);
+        due(x, 129, 179, 1);
+        due(x, 128, 179, 0);
+        due(x, 178, 180, 0);
+        due(x, 52, 181, 0);
+        due(x, 180, 182, 1);
+        due(x, 180, 183, 1);
+        due(x, 181, 183, 0);
+        due(x, 181, 182, 0);
+        due(x, 182, 180, 0);
+        House.due("races", x.runRace(-1, 0), 1);
+        House.due("runRace(0, 0)", x.runRace(0, 0), 181);
+        House.due("runRace(0, 1)", x.runRace(0, 1), 183);
+        house.begin(0, 20, 30, 10);
+        due(x, 0, 1, 1);
+        due(x, 0, 2, 0);
+        due(x, 1, 2, 0);
     }
 
     private static void before() {
