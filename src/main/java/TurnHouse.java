@@ -1342,23 +1342,28 @@ public final class TurnHouse {
             }
         }
 
+        /** What operators of a level join, those of the greater levels within. */
         private void readLevel(int level, int depth) {
-            if (level == LEVELS) {
-                readOne(depth);
-                return;
-            }
-            readLevel(level + 1, depth);
+            readSide(level + 1, depth);
             for (int n = 0; n < MOST_NODES && levelOf(tokens.kind) == level; n++) {
                 int sign = tokens.kind;
                 if (!countNode()) {
                     return;
                 }
                 tokens.advance();
-                readLevel(level + 1, depth);
+                readSide(level + 1, depth);
                 nodes.put(sign, 0);
                 if (level == TEST_LEVEL) {
                     return;
                 }
+            }
+        }
+
+        private void readSide(int level, int depth) {
+            if (level < LEVELS) {
+                readLevel(level, depth);
+            } else {
+                readOne(depth);
             }
         }
 
@@ -1499,7 +1504,7 @@ public final class TurnHouse {
         static final int QUEUED = 56, QUEUE = 60, QUEUE_LENGTH = 3;
         static final int WRITES = 72, VALUES = 80, WRITE_VIEWS = 152, MOST_WRITES = 9;
         static final int THREAD_VIEWS = 224, LOCK_VIEWS = 228, FENCE_VIEW = 232;
-        /** Set for laws alone. */
+        /** Set for laws alone; no state has it. */
         static final int STUCK = 233;
         static final int ALWAYS_ZERO = 234, SIZE = 235;
         static final int WIDTH = 110, OUTCOME_WIDTH = 17;
@@ -1513,7 +1518,7 @@ public final class TurnHouse {
         int slotCount, outcomeSlotCount;
         Program program;
         int way;
-        /** Of the step taken last: its line, what it was, the value that it told; why it went wrong. */
+        /** Of the step taken last: its line, what it was, the value that it told. */
         int line, act, told;
         private int target;
 
@@ -2159,7 +2164,7 @@ public final class TurnHouse {
             mark[0] = 0;
             found[0] = -1;
             boolean fits = true;
-            for (int s = 0; s < states.size && fits; s++) {
+            for (int s = 0; s < MOST_STATES && s < states.size && fits; s++) {
                 int only = lookAround(s);
                 int many = machine.readyCount;
                 for (int i = 0; i < many && fits; i++) {
@@ -2322,7 +2327,7 @@ public final class TurnHouse {
             }
             for (int level = 0; level < MOST_TRIED && layerSize > 0; level++) {
                 nextSize = 0;
-                for (int i = 0; i < layerSize; i++) {
+                for (int i = 0; i < layer.length && i < layerSize; i++) {
                     if (switches[layer[i]] == level) {
                         leaveFrom(layer[i], level);
                     }
@@ -2599,7 +2604,6 @@ public final class TurnHouse {
                 boolean begins = leads ? first : s == 0;
                 flags[s] = (wanted ? WANTED : 0) | (begins ? BEGINS : 0);
             }
-            now[Machine.STUCK] = 0;
         }
 
         private boolean isTrue(int from, int to, int[] now) {

@@ -288,6 +288,16 @@ public final class ExploreTest {
         House later = House.of("thread A { start B; } thread B later { r = 1; } thread C { }");
         later.x.explore(0, false);
         House.due("chances", later.x.chances(0, 1, 1), 6);
+        // of choices the least one is taken
+        House wakes = House.of("lock l; thread A { lock l; wait l; p = 1; } thread B { lock l; wait l; q = 1; }"
+            + " thread C { lock l; wake l; unlock l; }");
+        wakes.x.explore(0, false);
+        for (int i = 0; i < wakes.x.explored(3); i++) {
+            boolean ofB = wakes.x.outcomeLocal(i, 0, 0) == 0 && wakes.x.outcomeLocal(i, 1, 0) == 1;
+            boolean ofA = wakes.x.outcomeLocal(i, 0, 0) == 1 && wakes.x.outcomeLocal(i, 1, 0) == 0;
+            // A ahead of C, be B where it will; B ahead of C, A behind it
+            House.due("chances", wakes.x.chances(i, 1, 1), ofA ? 3 : ofB ? 1 : 2);
+        }
         // 200 steps are an end, 201 are none
         House end = House.of("thread A { while r < 99 { r = r + 1; } r = 0; }");
         end.x.explore(0, false);

@@ -302,6 +302,12 @@ public final class RewriteTest {
         House.due("states", house.x.explored(0), 6300);
         House.due("sound(2)", house.x.sound(2), House.FULL);
         House.due("explored", house.x.explored(0), House.BAD);
+        // both are tried without fewer turns
+        String eleven = House.times(11, "r = 1;");
+        House quiet = House.of("thread A { " + eleven + "} thread B { " + eleven + "} thread C { " + eleven + "} thread D { " + eleven + "}");
+        House.due("fewer turns", quiet.x.explore(0, true), 45);
+        rewrite(quiet, 1, 0, 1);
+        House.due("sound", quiet.x.sound(0), House.FULL);
         // the rewritten one has too many: its loop goes further
         House loop = House.of("thread A { while p < 998 { p = p + 1; } } thread B { while q < 998 { q = 998; q = q + 1; } }");
         House.due("explore", loop.x.explore(0, false) > 0 ? 1 : 0, 1);

@@ -13,6 +13,7 @@ public final class TextTest {
         leastFault();
         noThread();
         noFault();
+        programsAreApart();
         programForgets();
         House.finish();
     }
@@ -164,6 +165,7 @@ public final class TextTest {
         House.fault("cell x; thread A { cas x @1, 2; }", 2);
         House.fault("cell x; thread A { cas x, 1 @; }", 2);
         House.fault("cell x; thread A { add x, 1 into @5; }", 2);
+        House.fault("cell x; thread A { add x, 1 into @; }", 2);
         House.fault("cell x; thread A { r = x @+ 1; }", 2);
         House.fault("thread A { } @}", 2);
         House.fault("thread A { @cell x; }", 2);
@@ -220,6 +222,10 @@ public final class TextTest {
         House.fault("thread A { r = " + House.times(9, "-") + "@1", 4);
         House.fault("thread A { r = " + House.times(4, "!(") + "-@r", 4);
         House.fault("thread A { if " + House.times(9, "(") + "@(1", 4);
+        House.fault("cell x; thread A { x = " + House.times(9, "(") + "@1", 4);
+        House.fault("cell x; thread A { cas x, " + House.times(9, "(") + "@1", 4);
+        House.fault("cell x; thread A { cas x, 1, " + House.times(9, "(") + "@1", 4);
+        House.fault("thread A { call w " + House.times(9, "(") + "@1", 4);
     }
 
     private static void leastFault() {
@@ -252,7 +258,9 @@ public final class TextTest {
         House.of("cell x;# a remark { $ \ncell y;# another");
         House.of("thread A { start B; join B; } thread B later { start B; }");
         House.of("cell write; thread A { call write; call A 1; call r; } cell r;");
-        House.of("cell eightlet; cell a_1;");
+        House.of("cell eightlet; cell a_1; cell azAZ09_Z; cell Z; cell z; cell A0;");
+        String deep = House.times(8, "(") + "1" + House.times(8, ")");
+        House.of("cell x; thread A { cas x, " + deep + ", " + deep + "; x = " + deep + "; reply " + deep + "; assert " + deep + "; }");
         House.of("thread A { r = " + House.times(8, "(") + "1" + House.times(8, ")") + "; r = --------1; }");
         House.of("thread A " + House.times(8, "{ if 1 ") + "{ }" + House.times(8, "}"));
         House.of("thread A { " + House.times(100, "a=1;") + " }");
@@ -261,6 +269,31 @@ public final class TextTest {
         House.of("cell a; cell b; cell c; cell d; cell e; cell f; cell g; cell h;"
             + "lock i; lock j; lock k; lock l; thread A { } thread B { } thread C { } thread D { }");
         House.of("cell x=-5;cell y volatile=999;thread A{r=-1*!2<=3&(4|5);if r{}else{}while 0{}}");
+    }
+
+    /** Nothing of a program is left when another one is read. */
+    private static void programsAreApart() {
+        House house = House.of("cell x volatile = 7; cell y; lock l; thread A later { p = 1 + 2; } "
+            + "thread B { lock l; if q { r = y; } else { } }");
+        int[] due = {0, House.NONE, 0, 2, 1, 2, 4, 4};
+        for (int what = 0; what < due.length; what++) {
+            House.due("count(" + what + ")", house.x.count(what), due[what]);
+        }
+        House.due("program", house.read("cell y; thread B { y = 1; if 1 { } } thread x { s = y; }"), 0);
+        int[] next = {0, House.NONE, 0, 1, 0, 2, 3, 2};
+        for (int what = 0; what < next.length; what++) {
+            House.due("count(" + what + ")", house.x.count(what), next[what]);
+        }
+        House.due("steps", house.x.begin(1), 2);
+        House.due("y", house.x.cell(0), 0);
+        House.due("no x", house.x.cell(1), House.NO_VALUE);
+        house.turns(0);
+        house.readySteps(0, 9, 10);
+        house.turns(0);
+        house.thread(0, 4, House.NONE, 0);
+        House.due("no q", house.x.local(0, 0), House.NO_VALUE);
+        House.due("s", house.x.local(1, 0), 0);
+        House.due("only s", house.x.local(1, 1), House.NO_VALUE);
     }
 
     private static void programForgets() {
