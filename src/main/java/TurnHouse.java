@@ -48,7 +48,7 @@ public final class TurnHouse {
         Nodes lawNodes = new Nodes(MOST_NODES);
         reader = new Reader(tokens, first, lawNodes);
         turns = new Turns();
-        kept = new Rows(MOST_KEPT, Machine.OUTCOME_WIDTH * MOST_KEPT, 1 << 13);
+        kept = new Rows(new long[Machine.OUTCOME_WIDTH * MOST_KEPT], MOST_KEPT, 1 << 13);
         judge = new Judge(turns, lawNodes);
         run = new Run();
         history = new History();
@@ -294,9 +294,9 @@ public final class TurnHouse {
         }
         switch (what) {
             case 0:
-                return turns.sortOfOutcome(i);
+                return turns.slotOfOutcome(i, Machine.SORT);
             case 1:
-                return turns.outcomeState[i];
+                return turns.stateOfOutcome(i);
             case 2:
                 return turns.fewestSwitches(i);
             default:
@@ -441,13 +441,16 @@ public final class TurnHouse {
         if (!fits) {
             return FULL;
         }
-        kept.copy(turns.outcomes);
+        kept.clear(turns.outcomes.width, MOST_KEPT);
+        for (int i = 0; i < turns.outcomes.size; i++) {
+            kept.put(turns.states.data, turns.outcomes.start[i]);
+        }
         triedRewritten = true;
         if (turns.tryAll(rewritten, way, false) < 0) {
             return FULL;
         }
         for (int i = 0; i < turns.outcomes.size; i++) {
-            if (kept.numberOf(turns.outcomes.data, i * kept.width) < 0) {
+            if (kept.numberOf(turns.states.data, turns.outcomes.start[i]) < 0) {
                 gained = i;
                 return 0;
             }
@@ -1504,17 +1507,18 @@ public final class TurnHouse {
         static final int QUEUED = 56, QUEUE = 60, QUEUE_LENGTH = 3;
         static final int WRITES = 72, VALUES = 80, WRITE_VIEWS = 152, MOST_WRITES = 9;
         static final int THREAD_VIEWS = 224, LOCK_VIEWS = 228, FENCE_VIEW = 232;
-        /** Set for laws alone; no state has it. */
-        static final int STUCK = 233;
-        static final int ALWAYS_ZERO = 234, SIZE = 235;
-        static final int WIDTH = 110, OUTCOME_WIDTH = 17;
+        /** The sort that the state has as an end; whether it is stuck, for laws alone: no row has that. */
+        static final int SORT = 233, STUCK = 234;
+        static final int ALWAYS_ZERO = 235, SIZE = 236;
+        /** How long rows are at most: of outcomes, of states by views and by the other ways. */
+        static final int OUTCOME_WIDTH = 17, WIDTH = 110, OTHER_WIDTH = 37;
 
         final int[] now = new int[SIZE], kept = new int[SIZE];
         /** The steps that can be taken, each a thread times 10 and its choice. */
         final int[] ready = new int[MOST_THREADS * 10];
         int readyCount;
-        /** The slots that tell states of this program and way apart, and those that tell outcomes apart. */
-        final int[] slots = new int[SIZE + 1], outcomeSlots = new int[SIZE + 1];
+        /** The slots that tell states of this program and way apart; those that tell outcomes apart stand first. */
+        final int[] slots = new int[2 * WIDTH];
         int slotCount, outcomeSlotCount;
         Program program;
         int way;
@@ -1559,68 +1563,51 @@ public final class TurnHouse {
 
         void pickSlots() {
             slotCount = 0;
-            for (int c = 0; c < program.cellCount; c++) {
-                slotCount = pick(slots, slotCount, MEMORY + c, 1);
-            }
+            pick(SORT, 1);
+            pick(MEMORY, program.cellCount);
             for (int t = 0; t < program.threadCount; t++) {
-                slotCount = pick(slots, slotCount, localSlot(t, 0), program.localCount[t]);
+                pick(localSlot(t, 0), program.localCount[t]);
             }
+            makeEven();
             outcomeSlotCount = slotCount;
-            System.arraycopy(slots, 0, outcomeSlots, 0, slotCount);
-            outcomeSlotCount = padded(outcomeSlots, outcomeSlotCount);
-            for (int t = 0; t < program.threadCount; t++) {
-                for (int field = STATUS; field < LOCALS; field += MOST_THREADS) {
-                    slotCount = pick(slots, slotCount, field + t, 1);
-                }
+            for (int field = STATUS; field < LOCALS; field += MOST_THREADS) {
+                pick(field, program.threadCount);
             }
-            slotCount = pick(slots, slotCount, HOLDER, program.lockCount);
-            slotCount = pick(slots, slotCount, TAKEN, program.lockCount);
+            pick(HOLDER, program.lockCount);
+            pick(TAKEN, program.lockCount);
             if (way == BUFFERS) {
-                slotCount = pick(slots, slotCount, QUEUED, program.threadCount);
-                slotCount = pick(slots, slotCount, QUEUE, program.threadCount * QUEUE_LENGTH);
+                pick(QUEUED, program.threadCount);
+                pick(QUEUE, program.threadCount * QUEUE_LENGTH);
             }
             if (way == VIEWS) {
-                pickViews();
+                pick(WRITES, program.cellCount);
+                pick(VALUES, program.cellCount * MOST_WRITES);
+                pick(WRITE_VIEWS, program.cellCount * MOST_WRITES);
+                pick(THREAD_VIEWS, program.threadCount);
+                pick(LOCK_VIEWS, program.lockCount);
+                pick(FENCE_VIEW, 1);
             }
-            slotCount = padded(slots, slotCount);
+            makeEven();
         }
 
-        private void pickViews() {
-            slotCount = pick(slots, slotCount, WRITES, program.cellCount);
-            slotCount = pick(slots, slotCount, VALUES, program.cellCount * MOST_WRITES);
-            slotCount = pick(slots, slotCount, WRITE_VIEWS, program.cellCount * MOST_WRITES);
-            slotCount = pick(slots, slotCount, THREAD_VIEWS, program.threadCount);
-            slotCount = pick(slots, slotCount, LOCK_VIEWS, program.lockCount);
-            slotCount = pick(slots, slotCount, FENCE_VIEW, 1);
-        }
-
-        private static int pick(int[] list, int count, int from, int many) {
+        private void pick(int from, int many) {
             for (int i = 0; i < many; i++) {
-                list[count + i] = from + i;
+                slots[slotCount] = from + i;
+                slotCount++;
             }
-            return count + many;
         }
 
-        /** Two slots go into one number, so that their count must be even. */
-        private static int padded(int[] list, int count) {
-            list[count] = ALWAYS_ZERO;
-            return count + count % 2;
-        }
-
-        private static long pair(int high, int low) {
-            return (long) high << 32 | low & 0xFFFFFFFFL;
+        /** Two slots go into one number of a row. */
+        private void makeEven() {
+            if (slotCount % 2 != 0) {
+                pick(ALWAYS_ZERO, 1);
+            }
         }
 
         void pack(long[] row) {
+            now[SORT] = sort();
             for (int i = 0; i < slotCount; i += 2) {
-                row[i / 2] = pair(now[slots[i]], now[slots[i + 1]]);
-            }
-        }
-
-        void packOutcome(long[] row) {
-            row[0] = sort();
-            for (int i = 0; i < outcomeSlotCount; i += 2) {
-                row[1 + i / 2] = pair(now[outcomeSlots[i]], now[outcomeSlots[i + 1]]);
+                row[i / 2] = (long) now[slots[i]] << 32 | now[slots[i + 1]] & 0xFFFFFFFFL;
             }
         }
 
@@ -2053,15 +2040,16 @@ public final class TurnHouse {
 
     /** Rows of numbers, each kept once, in the order in which they came. */
     private static final class Rows {
-        final int most;
         final long[] data;
+        /** Where each row stands in the data. */
+        final int[] start;
         /** Where rows are looked for: their numbers and 1. */
         final int[] table;
         int size, width, limit;
 
-        Rows(int most, int room, int tableSize) {
-            this.most = most;
-            data = new long[room];
+        Rows(long[] data, int most, int tableSize) {
+            this.data = data;
+            start = new int[most];
             table = new int[tableSize];
         }
 
@@ -2082,7 +2070,7 @@ public final class TurnHouse {
             }
             int place = (int) (mixed >>> 32) & table.length - 1;
             for (int n = 0; n < table.length; n++) {
-                if (table[place] == 0 || isSame(rows, from, table[place] - 1)) {
+                if (table[place] == 0 || isSame(rows, from, start[table[place] - 1])) {
                     return place;
                 }
                 place = place + 1 & table.length - 1;
@@ -2090,13 +2078,18 @@ public final class TurnHouse {
             return place;
         }
 
-        private boolean isSame(long[] rows, int from, int i) {
-            for (int k = 0; k < width; k++) {
-                if (rows[from + k] != data[i * width + k]) {
+        private boolean isSame(long[] rows, int from, int kept) {
+            for (int i = 0; i < width; i++) {
+                if (rows[from + i] != data[kept + i]) {
                     return false;
                 }
             }
             return true;
+        }
+
+        /** The number of a row, less than 0 if it is not kept. */
+        int numberOf(long[] rows, int from) {
+            return table[placeOf(rows, from)] - 1;
         }
 
         /** The number of a row, which is kept now if it was not; less than 0 if there is no room. */
@@ -2107,22 +2100,24 @@ public final class TurnHouse {
                     return -1;
                 }
                 System.arraycopy(rows, from, data, size * width, width);
-                size++;
-                table[place] = size;
+                name(place, size * width);
             }
             return table[place] - 1;
         }
 
-        /** The number of a row, less than 0 if it is not kept. */
-        int numberOf(long[] rows, int from) {
-            return table[placeOf(rows, from)] - 1;
+        /** The number of a row that begins in the data themselves. */
+        int refer(int from) {
+            int place = placeOf(data, from);
+            if (table[place] == 0) {
+                name(place, from);
+            }
+            return table[place] - 1;
         }
 
-        void copy(Rows other) {
-            clear(other.width, most);
-            for (int i = 0; i < other.size; i++) {
-                put(other.data, i * width);
-            }
+        private void name(int place, int from) {
+            start[size] = from;
+            size++;
+            table[place] = size;
         }
     }
 
@@ -2130,17 +2125,18 @@ public final class TurnHouse {
     private static final class Turns {
         /** Marks of states: threads that have a ready step, how it was found, its sort and outcome if it is an end. */
         static final int READY_THREADS = 15, BY_WHILE = 16, STUCK_END = 32, OUTCOME_SHIFT = 8;
-        static final int TABLE = 1 << 16;
+        /** A power of 2 above the number of states. */
+        static final int TABLE = 1 << 15;
 
         final Machine machine = new Machine();
         final Findings findings = new Findings();
-        final Rows states = new Rows(MOST_STATES, 36 * MOST_STATES, TABLE);
-        final Rows outcomes = new Rows(MOST_STATES, Machine.OUTCOME_WIDTH * MOST_STATES, TABLE);
+        final Rows states = new Rows(new long[Machine.OTHER_WIDTH * MOST_STATES], MOST_STATES, TABLE);
+        /** Outcomes are what the rows of their first states begin with. */
+        final Rows outcomes = new Rows(states.data, MOST_STATES, TABLE);
         /** Steps as the state they come to, or by which a state was found, times 64, the thread times 16, the choice. */
         final int[] edges = new int[MOST_TRIED], found = new int[MOST_STATES];
         final int[] edgeStart = new int[MOST_STATES + 1];
         final int[] mark = new int[MOST_STATES];
-        final int[] outcomeState = new int[MOST_STATES];
         final long[] row = new long[Machine.WIDTH];
         final int[] priority = new int[MOST_THREADS];
         final int[] switches = new int[MOST_STATES * MOST_THREADS];
@@ -2158,7 +2154,7 @@ public final class TurnHouse {
             machine.pickSlots();
             findings.clear(program);
             states.clear(machine.slotCount / 2, way == VIEWS ? MOST_VIEW_STATES : MOST_STATES);
-            outcomes.clear(1 + machine.outcomeSlotCount / 2, MOST_STATES);
+            outcomes.clear(machine.outcomeSlotCount / 2, MOST_STATES);
             machine.pack(row);
             states.put(row, 0);
             mark[0] = 0;
@@ -2236,17 +2232,11 @@ public final class TurnHouse {
 
         private void noteEnd(int s) {
             endCount++;
-            machine.packOutcome(row);
-            if (row[0] != 0) {
+            if (machine.now[Machine.SORT] != 0) {
                 mark[s] |= STUCK_END;
                 findings.seeStuck(machine, s);
             }
-            int known = outcomes.size;
-            int i = outcomes.put(row, 0);
-            mark[s] |= i + 1 << OUTCOME_SHIFT;
-            if (i == known) {
-                outcomeState[i] = s;
-            }
+            mark[s] |= outcomes.refer(s * states.width) + 1 << OUTCOME_SHIFT;
         }
 
         boolean hasState(int s) {
@@ -2257,12 +2247,13 @@ public final class TurnHouse {
             return done && i >= 0 && i < outcomes.size;
         }
 
-        int sortOfOutcome(int i) {
-            return (int) outcomes.data[i * outcomes.width];
+        /** The first state that has an outcome. */
+        int stateOfOutcome(int i) {
+            return states.width > 0 ? outcomes.start[i] / states.width : 0;
         }
 
         int slotOfOutcome(int i, int slot) {
-            machine.unpack(states.data, outcomeState[i] * states.width);
+            machine.unpack(states.data, outcomes.start[i]);
             return machine.now[slot];
         }
 
@@ -2306,11 +2297,12 @@ public final class TurnHouse {
                 countSwitches();
                 switchesCounted = true;
             }
-            if (outcomeState[i] == 0) {
+            int first = stateOfOutcome(i);
+            if (first == 0) {
                 return 0;
             }
             int fewest = MOST_TRIED;
-            for (int s = outcomeState[i]; s < states.size; s++) {
+            for (int s = first; s < states.size; s++) {
                 for (int t = 0; t < MOST_THREADS && mark[s] >> OUTCOME_SHIFT == i + 1; t++) {
                     fewest = Math.min(fewest, switches[s * MOST_THREADS + t]);
                 }
@@ -2388,7 +2380,7 @@ public final class TurnHouse {
             for (int taken = 0; taken <= MOST_STEPS; taken++) {
                 int rank = firstReady();
                 if (rank < 0) {
-                    machine.packOutcome(row);
+                    machine.pack(row);
                     return outcomes.numberOf(row, 0);
                 }
                 machine.take(priority[rank], 0);

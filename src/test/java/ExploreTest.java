@@ -110,33 +110,45 @@ public final class ExploreTest {
         House.due("schedule(11, 2)", wrong.x.schedule(11, 2), 20);
     }
 
+    /** As much as a program may have, and four threads with so many lines that no other thread can see. */
+    private static String largest(int a, int b, int c, int d) {
+        return "cell s volatile; cell t = 1; cell u; cell v; cell w; cell x; cell y; cell z = - 999; lock i; lock j; lock k; lock l;"
+            + " thread A { " + lines(a) + "} thread B { " + lines(b) + "} thread C { " + lines(c) + "} thread D { " + lines(d) + "}";
+    }
+
+    private static String lines(int many) {
+        return "a = b + c; d = e; f = 0;" + House.times(many - 3, "fence;");
+    }
+
     private static void limits() {
         // ten, ten, ten and twenty places: 20,000 states
-        String nine = House.times(9, "r = 1;");
-        String most = "thread A { " + nine + "} thread B { " + nine + "} thread C { " + nine + "} thread D { " + nine + nine;
-        House house = House.of(most.replace("r = 1", "fence") + "fence; }");
+        House house = House.of(largest(9, 9, 9, 19));
         House.due("explore", house.x.explore(0, false), 20000);
         House.due("ends", house.x.explored(2), 1);
         House.due("steps", house.x.explored(1), 73000);
         House.due("last schedule", house.x.schedule(19999, -1), 46);
+        House.due("z", house.x.outcomeCell(0, 7), -999);
         house.law("fair must ended A & ended D", 1, House.NONE);
         house.law("never ended A & ended B & ended C & ended D", 0, 19999);
         House.due("buffers", house.x.explore(1, false), 20000);
+        House.due("t", house.x.outcomeCell(0, 1), 1);
         House.due("views", house.x.explore(2, false), House.FULL);
         House.due("explored", house.x.explored(0), House.BAD);
         House.due("outcome", house.x.outcome(0, 0), House.BAD);
         House.due("replay", house.x.replay(0), House.BAD);
-        House over = House.of(most.replace("r = 1", "fence") + "fence; fence; }");
+        House over = House.of(largest(9, 9, 9, 20));
         House.due("explore", over.x.explore(0, false), House.FULL);
         House.due("explored", over.x.explored(0), House.BAD);
-        House.due("fewer", House.of(most + "}").x.explore(0, true), 10 + 9 + 9 + 18);
+        String nine = House.times(9, "r = 1;");
+        House quiet = House.of("thread A { " + nine + "} thread B { " + nine + "} thread C { " + nine + "} thread D { " + nine + nine + "}");
+        House.due("fewer", quiet.x.explore(0, true), 1 + 9 + 9 + 9 + 18);
     }
 
     private static void viewLimit() {
-        String nine = House.times(9, "fence;");
-        String most = "thread A { " + nine + "} thread B { " + nine + "} thread C { " + nine + "} thread D { fence; fence; fence;";
-        House.due("views", House.of(most + "fence; fence; }").x.explore(2, false), 6000);
-        House.due("views", House.of(most + "fence; fence; fence; }").x.explore(2, false), House.FULL);
+        House house = House.of(largest(9, 9, 9, 5));
+        House.due("views", house.x.explore(2, false), 6000);
+        House.due("z", house.x.outcomeCell(0, 7), -999);
+        House.due("views", House.of(largest(9, 9, 9, 6)).x.explore(2, false), House.FULL);
     }
 
     private static void outcomes() {
