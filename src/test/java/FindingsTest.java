@@ -181,6 +181,12 @@ public final class FindingsTest {
             }
         }
         House.due("crossed", house.x.ring(5), 0);
+        // only locks have orders, whatever number a cell or a thread has
+        House others = House.of("cell x; lock k; lock l; thread A { lock l; x = 1; r = x; add x, 1; start B; join B; wake l; unlock l; }"
+            + " thread B later { }");
+        others.x.explore(0, false);
+        House.due("order(1, 0)", others.x.order(1, 0), 0);
+        House.due("order(1, 1)", others.x.order(1, 1), 0);
         // a lock that is never had has no order
         House never = House.of("lock k; lock l; thread A { lock l; } thread B { join A; lock k; lock l; }");
         never.x.explore(0, false);

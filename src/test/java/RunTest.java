@@ -529,6 +529,10 @@ public final class RunTest {
         woken.begin(2, 0, 0, 10, 10, 10, 10, 0);
         woken.readySteps(0);
         House.due("seen", woken.x.seen(0, 0), 2);
+        House second = House.of("cell x; thread A later { r = x; } thread B { x = 1; start A; }");
+        second.begin(2, 10, 10);
+        second.readySteps(0);
+        House.due("seen", second.x.seen(0, 0), 1);
         House threads = House.of("cell x; thread A { x = 1; start B; x = 2; } thread B later { r = x; x = 3; } thread C { join B; r = x; }");
         threads.begin(2, 0, 0);
         threads.readySteps(0, 10);

@@ -98,6 +98,11 @@ public final class TextTest {
         House.due("feed of 3999", x.feed(0, 0, 0, 0, 0), House.FULL);
         House.due("program() of blanks", x.program(), 0);
         House.due("count(2) of none", x.count(2), 0);
+        // each byte is a token
+        House.fault("@" + House.times(4000, ";"), 2);
+        House.fault("thread A{r=" + House.times(9, "(") + "@" + House.times(1990, "1*"), 4);
+        House house = new House();
+        House.due("program()", house.read("thread A{" + House.times(97, "r=1;") + House.times(900, "#()\n") + "}#"), 0);
     }
 
     private static void byteOrder() {
