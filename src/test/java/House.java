@@ -7,13 +7,20 @@ final class House {
     final TurnHouse x = new TurnHouse();
     private static int asked = 0;
     private static int wrong = 0;
+    private static String sentence = "";
 
     static void due(String what, int got, int want) {
         asked++;
         if (got != want) {
             wrong++;
-            System.out.println(asker() + ": " + what + " answered " + got + ", due is " + want);
+            System.out.println(asker() + ": " + what + " answered " + got + ", due is " + want
+                + (sentence.isEmpty() ? "" : " by: " + sentence));
         }
+    }
+
+    /** The sentence of the document that is tested from here on. */
+    static void sentence(String words) {
+        sentence = words;
     }
 
     /** The line of the test that asks. */
