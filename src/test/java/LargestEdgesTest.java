@@ -10,6 +10,7 @@ public final class LargestEdgesTest {
         thirtySixSteps();
         everyWrite();
         viewsOfTheLastWriteAlone();
+        viewsOfFirstValues();
         joinOfEightCells();
         choicesOfEveryCell();
         locksAndFenceApart();
@@ -187,6 +188,22 @@ public final class LargestEdgesTest {
         house.turns(10, 10);
         House.due("the last write of g", house.x.seen(1, 0), 10);
         House.due("none behind", house.x.seen(1, 1), House.NO_VALUE);
+    }
+
+    private static void viewsOfFirstValues() {
+        House.sentence("each cell has a row of WRITES, 0 (the first value), .. each with a VIEW (at first 0 everywhere)");
+        // 273 and 999 have bits in places of many cells
+        int[] values = {273, 999, -1, 15, 546};
+        for (int value : values) {
+            String stored = value < 0 ? "- " + -value : "" + value;
+            House house = House.of(CELLS + "thread A { b = 9; c = 9; " + House.times(8, "h = " + stored + "; ") + "} thread B { cas a, 500, 1; r = b; r = c; r = a; }");
+            house.begin(2, 0, 0, 0, 0, 0, 0, 0, 0, 0, 0, 10);
+            house.readySteps(10, 11);
+            house.turns(10);
+            house.readySteps(10, 11);
+            house.turns(10);
+            house.readySteps(10);
+        }
     }
 
     private static void joinOfEightCells() {

@@ -406,6 +406,10 @@ public final class LawEdgesTest {
         after.law("x == 0 leads x", 1, House.NONE);
         after.law("fair x == 0 leads x", 1, House.NONE);
         after.law("x leads x == 0", 0, after.x.outcome(0, 1));
+        // from a state with the second fact a way goes on without it, which is no matter where one comes to it first
+        House late = explored("cell x; cell y; thread A { r = y; if r { x = 1; r = 0; x = 0; } } thread B { x = 2; } thread C { y = 1; }", 0);
+        late.law("x == 1 leads x == 0", 1, House.NONE);
+        late.law("fair x == 1 leads x == 0", 1, House.NONE);
         // a state to which none comes does not count: all states are come to
         House branch = explored("cell x; thread A { x = 1; r = x; } thread B { x = 2; }", 0);
         branch.law("ended A & A.r == 2 leads x == 2", 1, House.NONE);

@@ -526,6 +526,15 @@ public final class MemoryEdgesTest {
             ends(head + "start C; }" + tail + "thread C later { }", way, 2);
             ends(head + "} halt;" + tail, way, 1);
         }
+        // of each lock, also where there are more locks than threads
+        String[] locks = {"i", "j", "k", "l"};
+        for (String lock : locks) {
+            String all = "cell x; lock i; lock j; lock k; lock l; ";
+            String once = "lock " + lock + "; ";
+            ends(all + "thread A { r = x; if r { r = 0; " + once + "} " + once + "} thread B { x = 1; }", 0, 2);
+            ends(all + "thread A { r = x; if r { r = 0; " + once + "} } thread B { x = 1; }", 1, 2);
+            ends(all + "thread A { r = x; " + once + "unlock " + lock + "; join B; } thread B { x = 0; }", 2, 2);
+        }
         // next lines and locals alone
         House house = House.of("thread A { r = 0; r = 1; r = 1; }");
         House.due("states", house.x.explore(0, false), 4);

@@ -25,7 +25,9 @@ public final class TextTest {
     }
 
     private static void newObject() {
+        House.sentence("No text, no program; nothing explored, no run.");
         nothingIsThere(new TurnHouse(), 0, House.NONE);
+        House.sentence("");
     }
 
     /** What is answered without a program, a run, anything explored. */

@@ -392,6 +392,14 @@ public final class TurnsEdgesTest {
         House stops = explored("cell x; thread A { r = x; while r == 0 { r = x; } } thread B { x = 1; }", 0);
         House.due("chances", stops.x.chances(0, 1, 1), 1);
         House.due("outcomes", stops.x.explored(3), 1);
+        House several = explored("cell x; thread A { r = x; while r == 0 { r = x; } } thread B { x = 1; x = 2; x = 3; }", 0);
+        House.due("outcomes", several.x.explored(3), 3);
+        for (int i = 0; i < 3; i++) {
+            int r = several.x.outcomeLocal(i, 0, 0);
+            House.due("chances of r = " + r, several.x.chances(i, 1, 1), r == 3 ? 1 : 0);
+            // A first, below behind its first step: r is 3 then; B first, below behind its first: r is 1
+            House.due("chances of r = " + r + " by D 2", several.x.chances(i, 2, 1), r == 2 ? 0 : 1);
+        }
     }
 
     private static void chancesGoByTheLastExplored() {
