@@ -18,7 +18,8 @@ public final class CasesTest {
                 CALLS.put(method.getName(), method);
             }
         }
-        String[] files = {"anyPrograms.txt", "likelyPrograms.txt", "numbersOfStates.txt"};
+        String[] files = {"anyPrograms.txt", "likelyPrograms.txt", "numbersOfStates.txt", "wholeObjects.txt", "manyTexts.txt",
+            "histories.txt", "largerPrograms.txt"};
         for (String file : files) {
             runFile(file, Files.readAllLines(Path.of("src/test/cases", file), StandardCharsets.ISO_8859_1));
         }
