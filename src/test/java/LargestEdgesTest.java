@@ -44,8 +44,8 @@ public final class LargestEdgesTest {
 
     private static void everyPlace() {
         House.sentence("8 cells, 4 locks, 4 threads, 6 LOCALS of one thread");
-        House house = House.of(chain());
         for (int way = 0; way < 3; way++) {
+            House house = House.of(chain());
             house.x.begin(way);
             for (int guard = 0; guard < 200 && house.x.ready(0) >= 0; guard++) {
                 house.turns(house.x.ready(0));
@@ -246,9 +246,9 @@ public final class LargestEdgesTest {
         for (int c = 7; c >= 0; c--) {
             program.append(House.times(2, "r = " + (char) ('a' + c) + "; "));
         }
-        House house = House.of(program + "}");
         int[][] jumps = {{4, 4}, {1, 7}, {7, 1}, {8, 0}, {3, 1}, {5, 3}, {0, 8}, {6, 2}};
         for (int[] jump : jumps) {
+            House house = House.of(program + "}");
             house.begin(2, new int[64]);
             for (int i = 0; i < 16; i++) {
                 for (int t = 1; t < 3; t++) {

@@ -260,14 +260,15 @@ public final class LawEdgesTest {
 
     private static void nodes400() {
         House.sentence("4 (400 NODES, a thread's LOCAL, 'ended' with its THREAD and the like being one, at its first token)");
-        House house = explored("cell x = 1; lock l; thread A { r = 1; }", 0);
         String[] ones = {"1", "x", "A.r", "A . r", "ended A", "wrong A", "waits A", "held l", "stuck"};
         for (String one : ones) {
+            House house = explored("cell x = 1; lock l; thread A { r = 1; }", 0);
             House.due("400 nodes of " + one, house.law("may 1 | " + House.times(197, one + "*") + one + " - -" + one), 1);
             house.lawFault("always " + NODES_399 + "*@" + one, 4);
             house.lawFault("always -" + one + House.times(199, "*" + one) + "@*" + one, 4);
             house.lawFault("1" + House.times(100, "*" + one) + " leads " + one + House.times(99, "*" + one) + "@*" + one, 4);
         }
+        House house = explored("cell x = 1; lock l; thread A { r = 1; }", 0);
         house.lawFault("always " + NODES_399 + "*@!1", 4);
         house.lawFault("always " + NODES_399 + "*@-1", 4);
         house.lawFault("always " + NODES_399 + "*(@1)", 4);
