@@ -22,6 +22,7 @@ public final class GrammarEdgesTest {
         namesOfLocals();
         toldAbove();
         threadsAnywhere();
+        threadsToldBelow();
         wordBehindCall();
         numbersOfLocals();
         loads();
@@ -216,6 +217,27 @@ public final class GrammarEdgesTest {
         House.of("thread A { start B; join C; } thread B later { start A; } thread C { join A; join C; }");
         House house = House.of("thread A { start C; } thread B { } thread C later { }");
         House.due("C", house.x.line(0, 2), 2);
+    }
+
+    private static void threadsToldBelow() {
+        House.sentence("(A thread's name told below does not make a WORD above it a thread but behind 'start', 'join';"
+            + " told then as a name it is 3, if a LOCAL or anything has it.)");
+        House house = House.of("thread A { start C; join B; call B; call C B1; } thread B { start C; } thread C later { join A; }");
+        int[] due = {2, 1, House.NONE, House.NONE, 2, 0};
+        for (int i = 0; i < due.length; i++) {
+            House.due("line(" + i + ", 2)", house.x.line(i, 2), due[i]);
+        }
+        String[] locals = {"B = 1;", "r = B;", "start B; r = 1 - B;", "B = 1; join B;", "if B { } start B;", "call w B;", "start B; B = B;"};
+        for (String local : locals) {
+            House.of("thread A { " + local.replaceAll("(start|join) B", "$1 C") + " } thread C { }");
+            House.fault("thread A { " + local + " } thread C { } thread @B { }", 3);
+        }
+        House.fault("thread A { start B; } cell B; thread @B { }", 3);
+        House.fault("thread A { start B; } lock B; thread @B { }", 3);
+        House.fault("thread A { start B; } thread B { } thread @B { }", 3);
+        // where a cell or a lock is wanted, it is none of them
+        House.fault("thread A { add @B, 1; } thread B { }", 3);
+        House.fault("thread A { lock @B; } thread B { }", 3);
     }
 
     private static void wordBehindCall() {

@@ -36,6 +36,7 @@ public final class ThreadEdgesTest {
         turnNotReady();
         turnFull();
         withoutARun();
+        nextLines();
         threadNoneSuch();
         localNoneSuch();
         cellNoneSuch();
@@ -661,6 +662,33 @@ public final class ThreadEdgesTest {
         House.due("before", house.x.before(0, 0), House.BAD);
         House.due("runRace", house.x.runRace(-1, 0), House.BAD);
         House.due("linear", house.x.linear(0), House.BAD);
+    }
+
+    private static void nextLines() {
+        House.sentence("1 its next line (that of its wait, while it WAITS or is WOKEN; NONE: not started, ENDED, WRONG), 2 why it went WRONG (0)");
+        String program = "lock l; thread A { r = 1; lock l; wait l; unlock l; } thread B { lock l; wake l; unlock l; assert 0; }"
+            + " thread C later { fence; } thread D { halt; halt; }";
+        House house = House.of(program);
+        for (int way = 0; way < 3; way++) {
+            house.begin(way);
+            house.thread(0, 1, 0, 0);
+            house.thread(2, 0, House.NONE, 0);
+            house.turns(0, 0);
+            house.thread(0, 1, 2, 0);
+            house.turns(0);
+            house.thread(0, 2, 2, 0);
+            house.turns(10, 10);
+            house.thread(0, 3, 2, 0);
+            house.turns(10, 0);
+            house.thread(0, 1, 3, 0);
+            house.turns(10);
+            house.thread(1, 5, House.NONE, 4);
+            house.turns(30);
+            house.thread(3, 4, House.NONE, 0);
+            house.thread(2, 0, House.NONE, 0);
+            house.turns(0);
+            house.thread(0, 4, House.NONE, 0);
+        }
     }
 
     private static void threadNoneSuch() {
